@@ -120,7 +120,16 @@ public final class TextsTest {
         faultAtCaret("takes -^not 2;");
         faultAtCaret("takes ^or 2;");
         faultAtCaret("takes 2 or ^or 2;");
+        faultAtCaret("takes 2 or ^;");
         faultAtCaret("takes 2 and ^;");
+        faultAtCaret("takes 2 < ^;");
+        faultAtCaret("takes 2 - ^;");
+        faultAtCaret("takes 2 * ^;");
+        faultAtCaret("takes - ^;");
+        faultAtCaret("takes 4;forwards 1;minds 1; ^5");
+        faultAtCaret("takes 4;forwards 1;minds 1; ^pie");
+        faultAtCaret("^takesz 4;");
+        faultAtCaret("takes z^".replace("z^", "^z"));
         faultAtCaret("takes not ^;");
         faultAtCaret("takes (^);");
         faultAtCaret("takes (1^;");
@@ -183,6 +192,10 @@ public final class TextsTest {
         value("5 and 4", 1);
         value("5 and 0", 0);
         value("2 and 1", 1);
+        value("1 and 1", 1);
+        value("1 and 0", 0);
+        value("0 and 1", 0);
+        value("0 or 1", 1);
         value("1 or 0 and 0", 1);
         value("(1 or 0) and 0", 0);
         value("not 5", 0);

@@ -193,7 +193,8 @@ public final class ToldTest {
     private static void chance() {
         OtherSidesPump x = new OtherSidesPump();
         for (int i = 0; i < 3; i++) {
-            x.car(0, 0, 0);
+            x.car(2 * i, i, 0);
+            x.set(3, i, i);
         }
         int[] seeds = {3, -4, Integer.MAX_VALUE - 5};
         for (int seed : seeds) {
