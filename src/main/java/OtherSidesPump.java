@@ -37,7 +37,7 @@ public final class OtherSidesPump {
     public OtherSidesPump() {
         fleet = new Fleet();
         rules = new Rules();
-        tape = new Reader();
+        tape = new Reader(rules);
         yard = new Yard(fleet, rules);
         advice = new Advice(fleet, yard);
         kept = new Keepsake();
@@ -46,7 +46,7 @@ public final class OtherSidesPump {
             sheets[i] = new Sheet();
         }
         tape.lay("takes 4 ; forwards 1 ; minds 1 ;");
-        tape.readInto(rules);
+        tape.readText();
         tape.empty();
     }
 
@@ -98,7 +98,7 @@ public final class OtherSidesPump {
         if (rules.isFull()) {
             return FULL;
         }
-        int fault = tape.readInto(rules);
+        int fault = tape.readText();
         tape.empty();
         return fault == NONE ? rules.size() - 1 : FAULT - fault;
     }
@@ -691,13 +691,17 @@ public final class OtherSidesPump {
         private static final String SIGNS = "();+-*<=";
         private static final int MOST_DIGITS = 4, MOST_OPEN = 5;
 
+        private final Rules out;
         private final int[] bytes = new int[TAPE_ROOM];
         private int size;
         private int next;
         private int token;
         private int begin;
         private int numeral;
-        private Rules out;
+
+        Reader(Rules out) {
+            this.out = out;
+        }
 
         int size() {
             return size;
@@ -722,8 +726,7 @@ public final class OtherSidesPump {
         }
 
         /** The place of the fault; NONE: there is none, and the rules have a text more. */
-        int readInto(Rules rules) {
-            out = rules;
+        int readText() {
             next = 0;
             out.beginText();
             step();

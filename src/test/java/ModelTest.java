@@ -20,6 +20,9 @@ public final class ModelTest {
         for (int seed = 0; seed < 20000; seed++) {
             new ModelTest(seed).oneText();
         }
+        for (int seed = 0; seed < 300; seed++) {
+            new ModelTest(seed).crowdedDay(seed);
+        }
         DUE.end();
     }
 
@@ -56,6 +59,59 @@ public final class ModelTest {
             for (int what = 8; what <= 10; what++) {
                 DUE.is(6, "told by \"" + text + "\"", x.told(car, what), m.told(car, what));
             }
+        }
+    }
+
+    /** Many cars by a good rule in few lanes, of which all is asked that can be. */
+    private void crowdedDay(int seed) {
+        for (int i = 0; i < 20 && m.count(1) < 3; i++) {
+            feedBoth(randomText());
+            DUE.is(6, "text", x.text(), m.text());
+        }
+        DUE.is(7, "force", x.force(seed % 3), m.force(seed % 3));
+        int busy = random.nextInt(4);
+        for (int car = 0; car < 6 - seed % 3; car++) {
+            int lane = random.nextInt(3) == 0 ? random.nextInt(4) : busy;
+            int kind = random.nextInt(6);
+            DUE.is(3, "car", x.car(kind, car, lane), m.car(kind, car, lane));
+            int[] features = {random.nextInt(10), random.nextInt(4) == 0 ? 1 - lane % 2 : lane % 2, lane,
+                random.nextInt(random.nextInt(4) == 0 ? 100 : 12), random.nextInt(10)};
+            for (int what = 0; what < 5; what++) {
+                DUE.is(2, "set", x.set(what, car, features[what]), m.set(what, car, features[what]));
+            }
+        }
+        String day = "day " + seed + ": ";
+        for (int minute = 0; minute < 200; minute += 7) {
+            DUE.is(9, day + "pump", x.pump(busy, minute, minute % 2), m.pump(busy, minute, minute % 2));
+        }
+        for (int what = 0; what < 4; what++) {
+            DUE.is(10, day + "all", x.all(what), m.all(what));
+        }
+        DUE.is(14, day + "forward", x.forward(), m.forward());
+        DUE.is(17, day + "film", x.film(2), m.film(2));
+        DUE.is(16, day + "tells(2, 1)", x.tells(2, 1), m.tells(2, 1));
+        DUE.is(19, day + "chance", x.chance(seed, 13, 0), m.chance(seed, 13, 0));
+        for (int what = 0; what < 2; what++) {
+            DUE.is(15, day + "blame", x.blame(what), m.blame(what));
+            if (m.count(0) == 4 || seed % 30 == 0) {
+                DUE.is(12, day + "lanes", x.lanes(what), m.lanes(what));
+            }
+        }
+        for (int car = 0; car < m.count(0); car++) {
+            askOfCar(day, car);
+        }
+    }
+
+    private void askOfCar(String day, int car) {
+        for (int what = 0; what < 4; what++) {
+            DUE.is(8, day + "times", x.times(car, what), m.times(car, what));
+        }
+        for (int what = 0; what < 2; what++) {
+            DUE.is(11, day + "lane", x.lane(car, what), m.lane(car, what));
+            DUE.is(13, day + "when", x.when(car, what), m.when(car, what));
+        }
+        for (int tens = 10; tens <= 60; tens += 10) {
+            DUE.is(16, day + "tells(2, " + (tens + car) + ")", x.tells(2, tens + car), m.tells(2, tens + car));
         }
     }
 
