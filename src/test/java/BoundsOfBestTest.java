@@ -120,6 +120,17 @@ public final class BoundsOfBestTest {
             y.car(BIKE, 0, 0);
         }
         lanesAre(y, "lane 3 minds least", 12344, 1);
+        // lane 3 is left for those that lorries, which don't fit it, would keep waiting
+        OtherSidesPump high = new OtherSidesPump();
+        high.car(SCOOTER, 0, 0);
+        high.car(LORRY, 0, 0);
+        high.car(LORRY, 0, 0);
+        high.car(LORRY, 0, 0);
+        lanesAre(high, "the first in the last lane", 4123, 0);
+        high.car(BIKE, 0, 0);
+        lanesAre(high, "the last, too", 41234, 0);
+        Station.car(high, BIKE, 0, 50);
+        lanesAre(high, "and one that comes later", 412341, 0);
         OtherSidesPump z = Station.ruled("1", "1", "0");
         for (int i = 0; i < 6; i++) {
             z.car(CAR, 0, 3);

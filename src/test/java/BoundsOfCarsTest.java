@@ -224,6 +224,15 @@ public final class BoundsOfCarsTest {
         DOC.is("draws forward in 99", y.told(1, DRAWS), 1);
         DOC.is("minds in 99", y.told(1, MINDS), 9);
         DOC.is("takes in 99", y.told(1, TAKES), 40);
+        // nobody is none: neither more nor less
+        OtherSidesPump z = Station.ruled("5+ahead", "ahead=0", "5+ahead");
+        z.car(0, 0, 0);
+        z.car(0, 0, 0);
+        for (int car = 0; car < 2; car++) {
+            DOC.is("takes with nobody ahead", z.told(car, TAKES), 5);
+            DOC.is("draws forward with nobody ahead", z.told(car, DRAWS), 1);
+            DOC.is("minds with nobody ahead", z.told(car, MINDS), 5);
+        }
     }
 
     /** What one of a kind takes when the text tells v. */

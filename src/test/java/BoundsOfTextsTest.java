@@ -70,6 +70,10 @@ public final class BoundsOfTextsTest {
         z.force(1);
         z.car(0, 0, 0);
         DOC.is("takes more than 40", z.told(0, 9), 40);
+        fault("takes ^" + "1".repeat(154));
+        fault("takes 1;forwards 1;minds ^" + "z".repeat(135));
+        fault("takes " + "1+".repeat(76) + "11^");
+        fault("takes " + "1+".repeat(76) + "1;^");
     }
 
     private static void text() {
@@ -84,20 +88,37 @@ public final class BoundsOfTextsTest {
         DOC.is("a fault in place 0", Due.text(x, "?"), -100);
         DOC.is("the tape behind it", x.count(2), 0);
         DOC.is("a fault in place 1", Due.text(x, " ?"), -101);
+        DOC.is("no text came of these", x.count(1), 2);
+        DOC.is("the rule is the old one", x.count(3), 0);
+        farFaults();
+        nothingIsLeft();
+    }
+
+    private static void farFaults() {
+        OtherSidesPump x = new OtherSidesPump();
         DOC.is("a fault in the last place", Due.text(x, " ".repeat(159) + "?"), -259);
         DOC.is("a fault behind the last place", Due.text(x, " ".repeat(160)), -260);
         DOC.is("the tape behind it", x.count(2), 0);
-        DOC.is("no text came of these", x.count(1), 2);
-        DOC.is("the rule is the old one", x.count(3), 0);
-        // nothing of a bad text is in the next one
-        x.car(0, 0, 0);
+        DOC.is("no text came of these", x.count(1), 1);
+    }
+
+    /** What stood on the tape before, and a text with a fault, are nothing of what is read behind them. */
+    private static void nothingIsLeft() {
+        OtherSidesPump x = new OtherSidesPump();
+        DOC.is("longer", Due.text(x, "takes 11111"), -106);
+        DOC.is("and shorter", Due.text(x, "takes 1"), -107);
+        DOC.is("longer", Due.text(x, "takes piepie"), -106);
+        DOC.is("and shorter", Due.text(x, "takes pie"), -109);
+        DOC.is("longer", Due.text(x, GOOD + ";"), -127);
+        DOC.is("and shorter", Due.text(x, GOOD.substring(0, 26)), -126);
         DOC.is("a fault late", Due.text(x, "takes 9;forwards 1;minds 9;?"), -127);
-        DOC.is("the next one", Due.text(x, GOOD), 2);
-        x.force(2);
-        DOC.is("takes by it", x.told(0, 9), 7);
-        DOC.is("minds by it", x.told(0, 10), 3);
+        DOC.is("the next one", Due.text(x, GOOD), 1);
+        DOC.is("a fault behind it", Due.text(x, "takes 9;forwards 1;minds 9;?"), -127);
+        x.car(0, 0, 0);
         x.force(1);
-        DOC.is("takes by the one before", x.told(0, 9), 7);
+        DOC.is("takes by it", x.told(0, 9), 7);
+        DOC.is("forwards by it", x.told(0, 8), 0);
+        DOC.is("minds by it", x.told(0, 10), 3);
     }
 
     private static void roomForTexts() {
@@ -116,6 +137,7 @@ public final class BoundsOfTextsTest {
         }
         x.force(0);
         DOC.is("takes by 0", x.told(0, 9), 4);
+        longTexts();
         DOC.says(6, "FULL: no TEXT more has room (THE TAPE stays).");
         String[] tapes = {"", "?", GOOD, "takes"};
         int size = 0;
@@ -135,6 +157,23 @@ public final class BoundsOfTextsTest {
             DOC.is("a fault", Due.text(y, "takes"), -105);
         }
         DOC.is("there is room behind faults", Due.text(y, GOOD), 1);
+    }
+
+    /** Texts as long as can be, behind a fault as late as can be: each is kept whole. */
+    private static void longTexts() {
+        OtherSidesPump x = new OtherSidesPump();
+        String sum = "0" + "+0".repeat(65) + "+";
+        DOC.is("a fault at its end", Due.text(x, "takes " + sum + "9;forwards 1;minds 9 ?"), -259);
+        for (int i = 1; i < 3; i++) {
+            DOC.is("a long text", Due.text(x, "takes " + sum + i + ";forwards " + i % 2 + ";minds " + i + ";"), i);
+        }
+        x.car(0, 0, 0);
+        for (int i = 1; i < 3; i++) {
+            x.force(i);
+            DOC.is("takes by " + i, x.told(0, 9), i);
+            DOC.is("forwards by " + i, x.told(0, 8), i % 2);
+            DOC.is("minds by " + i, x.told(0, 10), i);
+        }
     }
 
     private static void force() {
@@ -414,6 +453,16 @@ public final class BoundsOfTextsTest {
         value("5=6", 0);
         value("-1=-1", 1);
         value("(2<3)*5+(3=3)", 6);
+        // 0 itself, not what is held within 0
+        String[] untrue = {"0 or 0", "0 and 1", "1 and 0", "0 and 0", "not 1", "2<1", "1<1", "1=2"};
+        for (String e : untrue) {
+            value("5+(" + e + ")", 5);
+            value("5-(" + e + ")", 5);
+        }
+        String[] isTrue = {"0 or 3", "3 or 0", "3 and 4", "not 0", "1<2", "2=2"};
+        for (String e : isTrue) {
+            value("5+(" + e + ")", 6);
+        }
     }
 
     private static void faults() {
@@ -450,6 +499,14 @@ public final class BoundsOfTextsTest {
         fault("takes ^waited;");
         fault("^pump 1;");
         fault("takes 1;forwards 1;minds 1;^the");
+        // whatever stands ahead of it
+        fault("takes -^x 1;");
+        fault("takes not ^x 1;");
+        fault("takes (^x 1));");
+        fault("takes 1+^x;");
+        fault("takes 1 or ^x;");
+        fault("takes 1 ^x;");
+        fault("^x takes 1;");
         DOC.says(6, "a NUMBER that is too long,");
         fault("takes 1+^12345;");
         fault("takes 1 ^12345;");

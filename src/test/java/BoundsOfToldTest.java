@@ -9,6 +9,7 @@ public final class BoundsOfToldTest {
         refusalsOfTells();
         whoIsNotSo();
         whatItCouldBe();
+        eachOfSix();
         minutes();
         texts();
         film();
@@ -149,6 +150,70 @@ public final class BoundsOfToldTest {
         int[] stays = {0, 0, 1, 0, 0, 4};
         for (int what = 0; what < 6; what++) {
             DOC.is("told(0, " + what + ") behind it all", lanes.told(0, what), stays[what]);
+        }
+    }
+
+    private static OtherSidesPump six(int oneCar, int itsKind) {
+        int[] kinds = {0, 2, 4, 1, 5, 3};
+        OtherSidesPump x = new OtherSidesPump();
+        for (int i = 0; i < 6; i++) {
+            x.car(i == oneCar ? itsKind : kinds[i], i, i % 4);
+            x.set(1, i, i % 2);
+            x.set(3, i, 7 * i);
+            x.set(4, i, 9 - i);
+        }
+        return x;
+    }
+
+    /** What could be of each of six, asked by setting it. */
+    private static void eachOfSix() {
+        DOC.says(16, "KINDS of CAR what modulo 10 (10 ..), NUMBERS (20 ..), LANES (30 ..), PIES (40 ..), "
+            + "MINUTES: how many (50 ..), the least (60 ..; NONE).");
+        int[] feature = {0, 2, 4, 3};
+        int[] highest = {9, 3, 9, 99};
+        OtherSidesPump x = six(-1, 0);
+        x.film(0);
+        for (int car = 0; car < 6; car++) {
+            int kinds = 0;
+            for (int kind = 0; kind < 6; kind++) {
+                OtherSidesPump y = six(car, kind);
+                y.sheet(0, 1, 6);
+                for (int i = 0; i < 6; i++) {
+                    y.cell(0, i, x.times(i, 1));
+                }
+                kinds |= y.tells(0, 0) == 0 ? 1 << kind : 0;
+            }
+            DOC.is("kinds of " + car, x.tells(0, 10 + car), kinds);
+            for (int f = 0; f < 4; f++) {
+                asBySetting(car, feature[f], highest[f], 20 + 10 * f + car);
+            }
+        }
+        for (int tens = 10; tens <= 60; tens += 10) {
+            for (int car = 6; car < 10; car++) {
+                DOC.is("tells(0, " + (tens + car) + ")", x.tells(0, tens + car), -2);
+            }
+        }
+    }
+
+    private static void asBySetting(int car, int feature, int highest, int what) {
+        OtherSidesPump x = six(-1, 0);
+        x.film(0);
+        int bits = 0;
+        int howMany = 0;
+        int least = -1;
+        int was = x.told(car, feature);
+        for (int v = 0; v <= highest; v++) {
+            x.set(feature, car, v);
+            if (x.tells(0, 0) == 0) {
+                bits |= 1 << v;
+                least = howMany == 0 ? v : least;
+                howMany++;
+            }
+        }
+        x.set(feature, car, was);
+        DOC.is("tells(0, " + what + ")", x.tells(0, what), feature == 3 ? howMany : bits);
+        if (feature == 3) {
+            DOC.is("tells(0, " + (what + 10) + ")", x.tells(0, what + 10), least);
         }
     }
 

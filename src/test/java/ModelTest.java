@@ -64,8 +64,12 @@ public final class ModelTest {
 
     /** Many cars by a good rule in few lanes, of which all is asked that can be. */
     private void crowdedDay(int seed) {
-        for (int i = 0; i < 20 && m.count(1) < 3; i++) {
-            feedBoth(randomText());
+        // an object answers 512 calls, of which the questions below need some 180
+        int calls = 0;
+        for (int i = 0; i < 20 && m.count(1) < 3 && calls < 150; i++) {
+            String text = randomText();
+            calls += text.length() + 1;
+            feedBoth(text);
             DUE.is(6, "text", x.text(), m.text());
         }
         DUE.is(7, "force", x.force(seed % 3), m.force(seed % 3));

@@ -3,15 +3,16 @@ import java.util.List;
 
 /**
  * "Refusals, the first that the call's words name; they change nothing": each refused call is made in a station
- * that has nothing, one that has something and one that is full. Behind it, all that can be asked is asked of that
- * station and of its twin, to which the call was not made. The same goes for calls that just ask.
+ * that has nothing, one that has something and two that are full. Behind it, all that can be asked is asked of that
+ * station and of its twin, to which the call was not made. The same goes for calls that just ask. No station gets
+ * more than 512 calls, so there are many views of it, and two that are full in different ways.
  */
 public final class RefusalsTest {
     private static final Sentences DOC = new Sentences();
     private static final int LEAST = Sentences.LEAST, MOST = Sentences.MOST;
     private static final long NO = -4611686018427387904L;
-    private static final int NOTHING = 0, SOMETHING = 1, FULL = 2;
-    private static final String[] STATIONS = {"nothing", "something", "full"};
+    private static final int NOTHING = 0, SOMETHING = 1, FULL_YARD = 2, FULL_TAPE = 3, STATIONS = 4;
+    private static final String[] NAMES = {"nothing", "something", "all cars and sheets", "all texts and bytes"};
 
     interface Call {
         long on(OtherSidesPump x);
@@ -22,7 +23,7 @@ public final class RefusalsTest {
 
     public static void main(String[] args) {
         DOC.says(0, "Refusals, the first that the call's words name; they change nothing:");
-        for (int station = NOTHING; station <= FULL; station++) {
+        for (int station = NOTHING; station < STATIONS; station++) {
             for (Asked asked : refusedAnywhere()) {
                 changesNothing(station, asked);
             }
@@ -33,20 +34,24 @@ public final class RefusalsTest {
         for (Asked asked : refusedWithSomething()) {
             changesNothing(SOMETHING, asked);
         }
-        for (Asked asked : refusedWhenFull()) {
-            changesNothing(FULL, asked);
+        for (Asked asked : refusedInFullYard()) {
+            changesNothing(FULL_YARD, asked);
+        }
+        for (Asked asked : refusedWithFullTape()) {
+            changesNothing(FULL_TAPE, asked);
         }
         DOC.says(0, "which lane is best for one, which for all, when to come, what it is worth if all draw forward");
-        for (int station = NOTHING; station <= FULL; station++) {
+        for (int station = NOTHING; station < STATIONS; station++) {
             for (Call call : questions()) {
                 isLikeItsTwin("a question", station, call);
             }
+            inAnyOrder(station);
         }
         DOC.end();
     }
 
     private static void changesNothing(int station, Asked asked) {
-        String name = asked.name + " with " + STATIONS[station];
+        String name = asked.name + " with " + NAMES[station];
         DOC.is(name, asked.call.on(station(station)), asked.due);
         isLikeItsTwin(name, station, asked.call);
     }
@@ -60,6 +65,20 @@ public final class RefusalsTest {
             List<Long> due = view(view, station(station));
             int first = firstUnlike(seen, due);
             DOC.is(name + ", behind it: the first thing that is otherwise in view " + view, first, -1);
+        }
+    }
+
+    /** What a question is answered does not depend on the question ahead of it. */
+    private static void inAnyOrder(int station) {
+        List<Call> questions = questions();
+        for (int i = 0; i < questions.size(); i++) {
+            long due = questions.get(i).on(station(station));
+            OtherSidesPump x = null;
+            for (int j = 0; j < questions.size(); j++) {
+                x = j % 50 == 0 ? station(station) : x;
+                questions.get(j).on(x);
+                DOC.is("question " + i + " behind question " + j, questions.get(i).on(x), due);
+            }
         }
     }
 
@@ -79,31 +98,28 @@ public final class RefusalsTest {
         if (which == NOTHING) {
             return x;
         }
-        int cars = which == FULL ? 6 : 3;
+        int cars = which == FULL_YARD ? 6 : 3;
         for (int i = 0; i < cars; i++) {
             x.car((i + 3) % 6, i + 1, 1 + i % 2);
             x.set(1, i, 1);
             x.set(3, i, 3 * i + 1);
             x.set(4, i, i);
-            if (i == cars - 2) {
+            if (i == cars - 2 || which == FULL_YARD) {
                 x.image();
             }
         }
-        if (which == FULL) {
-            x.image();
-        }
-        int texts = which == FULL ? 5 : 2;
+        int texts = which == FULL_TAPE ? 5 : 2;
         for (int i = 0; i < texts; i++) {
-            Due.text(x, "takes " + (i + 5) + "+number;forwards " + i + ";minds " + (i + 2) + ";");
+            Due.text(x, "takes " + (i + 5) + ";forwards " + i + ";minds " + (i + 2) + ";");
         }
         x.force(texts - 1);
         x.set(0, 0, 7);
         x.set(3, 1, 2);
-        Due.feed(x, which == FULL ? " ".repeat(160) : "takes 9;forwards pie;minds 4;");
-        layOff(x, 0, 0, which == FULL ? 40 : 7);
-        layOff(x, 1, 1, which == FULL ? 40 : cars);
-        layOff(x, 2, 2, which == FULL ? 40 : 4);
-        if (which == FULL) {
+        Due.feed(x, which == FULL_TAPE ? " ".repeat(160) : "takes 9;forwards pie;minds 4;");
+        layOff(x, 0, 0, which == FULL_YARD ? 40 : 7);
+        layOff(x, 1, 1, which == FULL_YARD ? 40 : cars);
+        layOff(x, 2, 2, which == FULL_YARD ? 40 : 4);
+        if (which == FULL_YARD) {
             layOff(x, 3, 2, 40);
         }
         return x;
@@ -112,25 +128,35 @@ public final class RefusalsTest {
     /** Item i of a sheet is when car i (and so on, over and over) is off, so that any other number there is seen. */
     private static void layOff(OtherSidesPump x, int sheet, int sort, int n) {
         x.sheet(sheet, sort, n);
-        for (int i = 0; i < n; i++) {
-            x.cell(sheet, i, x.times(i % x.count(0), 1));
+        int cars = x.count(0);
+        for (int i = 0; i < cars; i++) {
+            x.cell(sheet, i, x.times(i, 1));
+        }
+        for (int laid = cars; laid < n; laid *= 2) {
+            x.copy(sheet, 0, sheet, laid, Math.min(laid, n - laid));
         }
     }
 
     // ---- what can be seen of a station
 
-    private static final int VIEWS = 10;
+    private static final int VIEWS = 18;
 
     private static List<Long> view(int which, OtherSidesPump x) {
         List<Long> seen = new ArrayList<>();
-        switch (which) {
-            case 0 -> seeCars(x, seen);
-            case 1 -> seeTape(x, seen);
-            case 2 -> seeTexts(x, seen);
-            case 3 -> seeImage(x, seen);
-            case 4, 5, 6, 7 -> seeSheet(x, which - 4, seen);
-            case 8 -> seeRoom(x, seen);
-            default -> seeMinutes(x, seen);
+        if (which < 7) {
+            seeText(x, which, seen);
+        } else if (which < 11) {
+            seeSheet(x, which - 7, seen);
+        } else {
+            switch (which) {
+                case 11 -> seeCars(x, seen);
+                case 12 -> seeTimes(x, seen);
+                case 13 -> seePumps(x, seen);
+                case 14 -> seeTape(x, seen);
+                case 15 -> seeImage(x, seen);
+                case 16 -> seeRoom(x, seen);
+                default -> seeRoomForTexts(x, seen);
+            }
         }
         return seen;
     }
@@ -146,19 +172,23 @@ public final class RefusalsTest {
         }
     }
 
-    private static void seeMinutes(OtherSidesPump x, List<Long> seen) {
+    private static void seeTimes(OtherSidesPump x, List<Long> seen) {
         for (int what = 0; what < 4; what++) {
             seen.add((long) x.all(what));
             for (int car = 0; car < 6; car++) {
                 seen.add((long) x.times(car, what));
             }
         }
-        for (int minute = 0; minute < 200; minute += 3) {
-            seen.add((long) x.pump(1, minute, 0) * 10 + x.pump(1, minute, 1));
-        }
         seen.add((long) x.forward());
         seen.add((long) x.blame(0));
         seen.add((long) x.drawn(1));
+    }
+
+    private static void seePumps(OtherSidesPump x, List<Long> seen) {
+        for (int minute = 0; minute < 200; minute += 3) {
+            seen.add((long) x.pump(1, minute, 0));
+            seen.add((long) x.pump(1, minute, 1));
+        }
     }
 
     /** What the tape has is seen by what a text of it tells. */
@@ -168,11 +198,9 @@ public final class RefusalsTest {
         seeCars(x, seen);
     }
 
-    private static void seeTexts(OtherSidesPump x, List<Long> seen) {
-        for (int text = 0; text < 7; text++) {
-            seen.add((long) x.force(text));
-            seeCars(x, seen);
-        }
+    private static void seeText(OtherSidesPump x, int text, List<Long> seen) {
+        seen.add((long) x.force(text));
+        seeCars(x, seen);
     }
 
     private static void seeImage(OtherSidesPump x, List<Long> seen) {
@@ -197,18 +225,21 @@ public final class RefusalsTest {
         }
     }
 
-    /** What may come yet: cars, bytes, texts. */
+    /** What may come yet: cars, bytes. */
     private static void seeRoom(OtherSidesPump x, List<Long> seen) {
         for (int i = 0; i < 7; i++) {
             seen.add((long) x.car(i, i, i % 4));
             seen.add((long) x.feed(32));
         }
         seeCars(x, seen);
-        for (int i = 0; i < 7; i++) {
+    }
+
+    private static void seeRoomForTexts(OtherSidesPump x, List<Long> seen) {
+        for (int i = 0; i < 4; i++) {
             seen.add((long) x.text());
             seen.add((long) Due.text(x, "takes 1;forwards 1;minds 1;"));
+            seen.add((long) x.count(1));
         }
-        seeCars(x, seen);
     }
 
     // ---- the calls
@@ -349,13 +380,11 @@ public final class RefusalsTest {
         return calls;
     }
 
-    private static List<Asked> refusedWhenFull() {
+    /** Six cars, and four sheets of forty: bytes, shorts, ints, ints. */
+    private static List<Asked> refusedInFullYard() {
         List<Asked> calls = new ArrayList<>();
         add(calls, -4, "car(5, 9, 3)", x -> x.car(5, 9, 3));
         add(calls, -4, "car(0, 0, 0)", x -> x.car(0, 0, 0));
-        add(calls, -4, "feed(0)", x -> x.feed(0));
-        add(calls, -4, "feed(255)", x -> x.feed(255));
-        add(calls, -4, "text()", OtherSidesPump::text);
         add(calls, -2, "tells(0, 16)", x -> x.tells(0, 16));
         add(calls, -2, "tells(0, 15)", x -> x.tells(0, 15));
         add(calls, -12, "cell(2, 40, 1)", x -> x.cell(2, 40, 1));
@@ -364,6 +393,14 @@ public final class RefusalsTest {
         add(calls, -12, "cars(2, 2, 38, 1)", x -> x.cars(2, 2, 38, 1));
         // nobody has room, so nobody comes
         add(calls, 0, "cars(2, 2, 37, 1)", x -> x.cars(2, 2, 37, 1));
+        return calls;
+    }
+
+    private static List<Asked> refusedWithFullTape() {
+        List<Asked> calls = new ArrayList<>();
+        add(calls, -4, "feed(0)", x -> x.feed(0));
+        add(calls, -4, "feed(255)", x -> x.feed(255));
+        add(calls, -4, "text()", OtherSidesPump::text);
         return calls;
     }
 

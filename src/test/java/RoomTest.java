@@ -30,7 +30,7 @@ public final class RoomTest {
     }
 
     private static void dearCalls(OtherSidesPump x) {
-        for (int turn = 0; turn < 10; turn++) {
+        for (int turn = 0; turn < 6; turn++) {
             x.sheet(0, 2, 40);
             x.sheet(1, 2, 40);
             x.copy(0, 0, 1, 0, 40);

@@ -190,15 +190,20 @@ public final class ToldTest {
         }
     }
 
-    private static void chance() {
+    private static OtherSidesPump threeInLaneZero() {
         OtherSidesPump x = new OtherSidesPump();
         for (int i = 0; i < 3; i++) {
             x.car(2 * i, i, 0);
             x.set(3, i, i);
         }
+        return x;
+    }
+
+    private static void chance() {
         int[] seeds = {3, -4, Integer.MAX_VALUE - 5};
         for (int seed : seeds) {
             for (int n = 1; n <= 20; n++) {
+                OtherSidesPump x = threeInLaneZero();
                 int good = 0;
                 for (int i = 0; i < n; i++) {
                     good += x.drawn(seed + i) <= x.all(0) ? 1 : 0;
@@ -211,7 +216,8 @@ public final class ToldTest {
                 DUE.holds("lowest terms of chance(" + seed + ", " + n + ")", lowest && below > 0);
             }
         }
-        // with one that never fits, all is no worse anywhere; with nobody, always
+        // where nobody minds, all is no worse anywhere
+        OtherSidesPump x = threeInLaneZero();
         x.force(Due.text(x, "takes 1; forwards 1; minds 0;"));
         DUE.is(19, "always", x.chance(0, 20, 0), 1);
         DUE.is(19, "always", x.chance(0, 20, 1), 1);
