@@ -142,6 +142,30 @@ public final class BoundsOfBestTest {
             cap.set(1, i, 1);
         }
         lanesAre(cap, "who fits 1 and 3", 224, 0);
+        lanesOfWhichTextsTell();
+    }
+
+    /** The lane that a text reads is the one that a car would have, not the one that it has. */
+    private static void lanesOfWhichTextsTell() {
+        OtherSidesPump takes = Station.ruled("lane*10+1", "0", "1");
+        for (int i = 0; i < 6; i++) {
+            takes.car(BIKE, 0, 3);
+        }
+        // a bike takes 1, 5, 10, 15 minutes in these lanes
+        lanesAre(takes, "lane 0 takes least", 111234, 1 + 2);
+        OtherSidesPump forwards = Station.ruled("10", "lane=2", "1");
+        for (int i = 0; i < 3; i++) {
+            forwards.car(CAR, 0, 0);
+        }
+        lanesAre(forwards, "in lane 2 one draws forward", 133, 0);
+        forwards.car(CAR, 0, 0);
+        lanesAre(forwards, "and one is too many", 1133, 10);
+        // all that it could have: also those that it doesn't fit, where it minds nothing
+        OtherSidesPump minds = Station.ruled("5", "1", "(lane=0 or lane=2)*9");
+        for (int i = 0; i < 5; i++) {
+            minds.car(CAR, 0, 0);
+        }
+        lanesAre(minds, "lane 1 fits nobody", 11222, 0);
     }
 
     private static void whenIs(OtherSidesPump x, String which, int car, int minute, int waited) {

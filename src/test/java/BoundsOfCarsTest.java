@@ -19,6 +19,7 @@ public final class BoundsOfCarsTest {
         longOnes();
         boundsOfTheRule();
         names();
+        theLastCall();
         DOC.end();
     }
 
@@ -413,5 +414,15 @@ public final class BoundsOfCarsTest {
         DOC.is("off with nobody ahead", y.times(0, 1), 5);
         DOC.is("off with nobody ahead in its lane", y.times(1, 1), 5);
         DOC.is("off with one ahead", y.times(2, 1), 15);
+    }
+
+    private static void theLastCall() {
+        DOC.says(0, "An object is used for at most 512 calls after it has been made;");
+        OtherSidesPump x = new OtherSidesPump();
+        DOC.is("call 1", x.car(4, 7, 3), 0);
+        for (int call = 2; call <= 511; call++) {
+            DOC.is("call " + call, x.set(COMES, 0, call % 100), call == 2 ? 0 : (call - 1) % 100);
+        }
+        DOC.is("call 512", x.times(0, 1), 511 % 100 + 2);
     }
 }

@@ -6,6 +6,7 @@ public final class BoundsOfHostTest {
     private static final int[] NO_SHEET = {LEAST, -1, 4, 5, MOST};
 
     public static void main(String[] args) {
+        refusalsOfTheHost();
         sheets();
         sheet();
         cell();
@@ -17,6 +18,24 @@ public final class BoundsOfHostTest {
         outsideOfCars();
         taken();
         DOC.end();
+    }
+
+    private static void refusalsOfTheHost() {
+        DOC.says(0, "the host's: -11 nothing where something is asked, -12 a place outside, "
+            + "-13 a thing of another sort or KIND, -14 a size below 0.");
+        OtherSidesPump x = new OtherSidesPump();
+        DOC.is("no sheet", x.cell(0, 0, 0), -11);
+        DOC.is("no car", x.taken(0, 0), -11);
+        x.sheet(0, BYTES, 1);
+        DOC.is("the last place", x.cell(0, 0, 0), 1);
+        DOC.is("a place outside", x.cell(0, 1, 0), -12);
+        DOC.is("a sheet of its sort", x.cars(0, BYTES, 0, 0), 0);
+        DOC.is("a sheet of another sort", x.cars(0, SHORTS, 0, 0), -13);
+        x.car(2, 8, 0);
+        DOC.is("a car of its kind", x.taken(0, 2), 8);
+        DOC.is("a car of another kind", x.taken(0, 4), -13);
+        DOC.is("a size of 0", x.sheet(0, BYTES, 0), 1);
+        DOC.is("a size below 0", x.sheet(0, BYTES, -1), -14);
     }
 
     private static void sheets() {
@@ -327,7 +346,7 @@ public final class BoundsOfHostTest {
 
     private static void outsideOfCars() {
         DOC.says(26, "-12: what stood ahead came.");
-        int[] from = {LEAST, -3, -1, 6, 7, 8, 9, 40, MOST};
+        int[] from = {LEAST, LEAST + 2, -3, -2, -1, 6, 7, 8, 9, 40, MOST - 3, MOST - 2, MOST - 1, MOST};
         for (int f : from) {
             OtherSidesPump x = new OtherSidesPump();
             x.sheet(0, BYTES, 8);

@@ -337,6 +337,11 @@ public final class BoundsOfMinutesTest {
         // at the end of the minute in which both are off nobody stands there
         OtherSidesPump bike = Station.with(1, BIKE, 0);
         DOC.is("a bike", bike.all(1), 2);
+        // a minute counts for each front pump that is free so in it
+        for (int lane = 1; lane < 4; lane++) {
+            bike.car(BIKE, 0, lane);
+            DOC.is("a bike in each of " + (lane + 1) + " lanes", bike.all(1), 2 * (lane + 1));
+        }
         // one that is finished, but stands behind another, has the front pump taken
         OtherSidesPump y = Station.with(2, CAR, 0);
         y.set(4, 0, 9);
@@ -405,5 +410,14 @@ public final class BoundsOfMinutesTest {
         OtherSidesPump y = Station.with(2, CAR, 0);
         y.set(3, 0, 50);
         DOC.is("the later number comes first", y.all(3), 0);
+        // one of them being OFF is not enough, whichever it is
+        OtherSidesPump z = new OtherSidesPump();
+        z.car(BIKE, 0, 1);
+        z.car(CAR, 0, 1);
+        DOC.is("the other one is never off", z.all(3), 0);
+        z.set(3, 0, 5);
+        DOC.is("the one that comes first is never off", z.all(3), 0);
+        DOC.is("the other one isn't off by 199", lateTrailer(2, "1").all(3), 0);
+        DOC.is("neither is off by 199", lateTrailer(3, "1").all(3), 0);
     }
 }

@@ -307,7 +307,7 @@ public final class BoundsOfToldTest {
     }
 
     private static OtherSidesPump mixed(int howMany) {
-        OtherSidesPump x = Station.ruled("5", "1", "1+lane*2");
+        OtherSidesPump x = Station.ruled("5+lane*3", "lane<2", "1+lane*2");
         for (int i = 0; i < howMany; i++) {
             x.car(i, i, 0);
             x.set(1, i, i % 2);

@@ -139,22 +139,24 @@ public final class RefusalsTest {
 
     // ---- what can be seen of a station
 
-    private static final int VIEWS = 18;
+    private static final int VIEWS = 22;
 
     private static List<Long> view(int which, OtherSidesPump x) {
         List<Long> seen = new ArrayList<>();
         if (which < 7) {
             seeText(x, which, seen);
         } else if (which < 11) {
-            seeSheet(x, which - 7, seen);
+            seeNumbers(x, which - 7, seen);
+        } else if (which < 15) {
+            seeSize(x, which - 11, seen);
         } else {
             switch (which) {
-                case 11 -> seeCars(x, seen);
-                case 12 -> seeTimes(x, seen);
-                case 13 -> seePumps(x, seen);
-                case 14 -> seeTape(x, seen);
-                case 15 -> seeImage(x, seen);
-                case 16 -> seeRoom(x, seen);
+                case 15 -> seeCars(x, seen);
+                case 16 -> seeTimes(x, seen);
+                case 17 -> seePumps(x, seen);
+                case 18 -> seeTape(x, seen);
+                case 19 -> seeImage(x, seen);
+                case 20 -> seeRoom(x, seen);
                 default -> seeRoomForTexts(x, seen);
             }
         }
@@ -208,8 +210,8 @@ public final class RefusalsTest {
         seeCars(x, seen);
     }
 
-    /** How many items a sheet has, of which sort it is, and whether its numbers are the cars' as laid. */
-    private static void seeSheet(OtherSidesPump x, int sheet, List<Long> seen) {
+    /** Of which sort a sheet is, and whether its numbers are the cars' as laid. */
+    private static void seeNumbers(OtherSidesPump x, int sheet, List<Long> seen) {
         int other = (sheet + 1) % 4;
         int cars = x.count(0);
         for (int sort = 0; sort < 3; sort++) {
@@ -220,6 +222,10 @@ public final class RefusalsTest {
                 seen.add((long) x.tells(other, 0));
             }
         }
+    }
+
+    /** How many items a sheet has. */
+    private static void seeSize(OtherSidesPump x, int sheet, List<Long> seen) {
         for (int i = 0; i <= 41; i++) {
             seen.add((long) x.cell(sheet, i, 0));
         }
