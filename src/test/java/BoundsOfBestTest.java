@@ -215,6 +215,7 @@ public final class BoundsOfBestTest {
     private static void forward() {
         DOC.says(14, "FORWARD: BADNESS, were forwards of all 1, less as it is.");
         DOC.is("no cars", new OtherSidesPump().forward(), 0);
+        DOC.says(14, "`int forward()`: FORWARD.");
         OtherSidesPump x = Station.ruled("5", "0", "3");
         x.car(CAR, 0, 0);
         DOC.is("one", x.forward(), 0);

@@ -25,7 +25,7 @@ public final class BoundsOfCarsTest {
 
     private static void newObject() {
         OtherSidesPump x = new OtherSidesPump();
-        DOC.says(1, "`OtherSidesPump()`: No CARS.");
+        DOC.says(1, "A new object `OtherSidesPump()`: No CARS.");
         DOC.is("count(0)", x.count(0), 0);
         DOC.is("told(0, 0)", x.told(0, 0), -2);
         DOC.is("times(0, 0)", x.times(0, 0), -2);
@@ -61,7 +61,7 @@ public final class BoundsOfCarsTest {
     }
 
     private static void kinds() {
-        DOC.says(3, "a KIND: 0 CAR, 1 VAN under CAR, 2 BIKE under CAR, 3 TRAILER under VAN, 4 SCOOTER under BIKE, "
+        DOC.says(3, "CARS (6 at most, numbered from 0) have a KIND: 0 CAR, 1 VAN under CAR, 2 BIKE under CAR, 3 TRAILER under VAN, 4 SCOOTER under BIKE, "
             + "5 LORRY under CAR;");
         OtherSidesPump x = new OtherSidesPump();
         int[] none = {LEAST, -1, 6, 7, MOST};
@@ -122,8 +122,17 @@ public final class BoundsOfCarsTest {
         DOC.says(2, "a CAP (0 left, 1 right; 0 as one comes)");
         settable(CAP, 1);
         isZeroAsOneComes(CAP);
-        DOC.says(2, "3, each with a BACK pump and a FRONT pump.");
+        DOC.says(2, "0 as one comes), a LANE, the MINUTE");
         settable(LANE, 3);
+        // a car's lane is the one that was said as it came
+        for (int lane = 0; lane < 4; lane++) {
+            OtherSidesPump y = new OtherSidesPump();
+            y.car(0, 0, lane);
+            DOC.is("told(0, 2)", y.told(0, LANE), lane);
+            DOC.is("set(2, 0, 3 - lane)", y.set(LANE, 0, 3 - lane), lane);
+            DOC.is("told(0, 2)", y.told(0, LANE), 3 - lane);
+        }
+        DOC.says(2, "3, each with a BACK pump and a FRONT pump.");
         int[] noLane = {LEAST, -1, 4, 5, MOST};
         for (int lane : noLane) {
             DOC.is("car(0, 0, " + lane + ")", x.car(0, 0, lane), -2);
@@ -189,7 +198,8 @@ public final class BoundsOfCarsTest {
 
     private static void told() {
         DOC.says(4, "What 0 .. 4 as of set(), 5 KIND, 6 whether it FITS its LANE (1, 0), 7 whether it is LONG, "
-            + "8 whether it DRAWS FORWARD, 9 TAKES, 10 minds");
+            + "8 whether it DRAWS FORWARD, 9 TAKES, 10 minds "
+            + "(8 to 10 in the MINUTE in which it COMES, with nobody ahead). BAD.");
         OtherSidesPump x = new OtherSidesPump();
         for (int what = 0; what <= 10; what++) {
             DOC.is("told of nobody", x.told(0, what), -2);
@@ -298,7 +308,7 @@ public final class BoundsOfCarsTest {
     }
 
     private static void fitsOfKinds() {
-        String[] words = {"CAR: if LANE modulo 2 is CAP;", "VAN: as a CAR;", "BIKE: any;", "TRAILER: as a VAN;",
+        String[] words = {"FITS (a LANE): CAR: if LANE modulo 2 is CAP;", "VAN: as a CAR;", "BIKE: any;", "TRAILER: as a VAN;",
             "SCOOTER: any;", "LORRY: but LANE 3."};
         int[][] want = {{1010, 101}, {1010, 101}, {1111, 1111}, {1010, 101}, {1111, 1111}, {1110, 1110}};
         for (int kind = 0; kind < 6; kind++) {
@@ -370,7 +380,8 @@ public final class BoundsOfCarsTest {
         // the bound is that of what is told, not of what one takes: PIES, kinds come behind it
         DOC.is("VAN, -5 and 9", takes(1, -5, 9, 0), 18);
         DOC.is("CAR, 50 and 9", takes(0, 50, 9, 0), 49);
-        DOC.says(4, "minds: how bad each MINUTE of waiting is (0 .. 9, else the bound)");
+        DOC.says(4, "takes (0 .. 40, else the bound), forwards, minds: how bad each MINUTE of waiting is "
+            + "(0 .. 9, else the bound).");
         int[] noneMinded = {LEAST, -9, -1, 0};
         for (int v : noneMinded) {
             DOC.is("minds " + v, toldBy(MINDS, v), 0);
@@ -390,7 +401,7 @@ public final class BoundsOfCarsTest {
     }
 
     private static void names() {
-        DOC.says(4, "cap: CAP; lane: LANE; minute: the MINUTE; number: NUMBER; "
+        DOC.says(4, "Of a CAR in a MINUTE: cap: CAP; lane: LANE; minute: the MINUTE; number: NUMBER; "
             + "ahead: how many of its LANE are at its pumps then; pie: PIES.");
         String[] name = {"number", "cap", "lane", "minute", "pie"};
         int[] highest = {9, 1, 3, 99, 9};

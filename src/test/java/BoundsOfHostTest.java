@@ -309,7 +309,8 @@ public final class BoundsOfHostTest {
     }
 
     private static void carsThatCame() {
-        DOC.says(26, "from one on, three by three (as of car()), n of them (0 .. 6): how many came (others are left out).");
+        DOC.says(26, "CARS by a SHEET that is taken for one of a sort: from one on, three by three (as of car()), "
+            + "n of them (0 .. 6): how many came (others are left out).");
         for (int sort = 0; sort < 3; sort++) {
             OtherSidesPump x = new OtherSidesPump();
             Station.row(x, 2, sort, 9, 5, 9, 3, 0, 0, 0, 1, 1, 1, 2, 2, 2, 3, 3, 3, 4, 4, 0);

@@ -190,7 +190,7 @@ public final class BoundsOfMinutesTest {
 
     private static void whoDrivesUp() {
         DOC.says(8, "Then, as long as nothing is at the BACK pump, the first one of the LANE that has COME, FITS, "
-            + "and hasn't driven up yet");
+            + "and hasn't driven up yet (by the MINUTE in which it COMES, of like ones by numbers), drives up:");
         OtherSidesPump x = Station.with(6, CAR, 0);
         for (int car = 0; car < 6; car++) {
             int turn = car / 2;

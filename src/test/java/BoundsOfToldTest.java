@@ -167,12 +167,19 @@ public final class BoundsOfToldTest {
 
     /** What could be of each of six, asked by setting it. */
     private static void eachOfSix() {
-        DOC.says(16, "KINDS of CAR what modulo 10 (10 ..), NUMBERS (20 ..), LANES (30 ..), PIES (40 ..), "
-            + "MINUTES: how many (50 ..), the least (60 ..; NONE).");
+        DOC.says(16, "TOLD: who isn't so (what 0), TEXTS (1), KINDS of CAR what modulo 10 (10 ..), NUMBERS (20 ..), "
+            + "LANES (30 ..), PIES (40 ..), MINUTES: how many (50 ..), the least (60 ..; NONE).");
         int[] feature = {0, 2, 4, 3};
         int[] highest = {9, 3, 9, 99};
         OtherSidesPump x = six(-1, 0);
+        Due.text(x, "takes 5;forwards 1;minds 1;");
         x.film(0);
+        DOC.is("tells(0, 1)", x.tells(0, 1), 1);
+        x.cell(0, 2, 0);
+        DOC.is("tells(0, 0)", x.tells(0, 0), 4);
+        DOC.is("tells(0, 1)", x.tells(0, 1), 0);
+        x.film(0);
+        DOC.is("tells(0, 0)", x.tells(0, 0), 0);
         for (int car = 0; car < 6; car++) {
             int kinds = 0;
             for (int kind = 0; kind < 6; kind++) {
@@ -320,6 +327,7 @@ public final class BoundsOfToldTest {
             + "(an int; SEED at first) anew for each: BADNESS.");
         int[] seeds = {LEAST, LEAST + 1, -512, -1, 0, 1, 511, 512, MOST - 1, MOST};
         DOC.is("no cars", new OtherSidesPump().drawn(MOST), 0);
+        DOC.says(18, "`int drawn(int seed)`: DRAWN.");
         for (int seed : seeds) {
             for (int howMany = 1; howMany <= 6; howMany++) {
                 OtherSidesPump x = mixed(howMany);

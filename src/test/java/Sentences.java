@@ -1,10 +1,14 @@
 import java.io.IOException;
 import java.nio.file.Files;
 import java.nio.file.Path;
+import java.util.LinkedHashMap;
+import java.util.Map;
 
 /** Tests by sentences: each quotes words that must stand in the document, and asks at least once. */
 final class Sentences {
     static final int LEAST = Integer.MIN_VALUE, MOST = Integer.MAX_VALUE;
+
+    private static final Map<String, Integer> QUOTED = new LinkedHashMap<>();
 
     private final Due due = new Due();
     private final String document;
@@ -23,6 +27,12 @@ final class Sentences {
         words = quoted;
         asked = 0;
         due.holds("the document says: " + quoted, document.contains(plain(quoted)));
+        QUOTED.put(plain(quoted), ofPromise);
+    }
+
+    /** All that was quoted till now in this run, and of which promise. */
+    static Map<String, Integer> quoted() {
+        return QUOTED;
     }
 
     void is(String call, long got, long want) {
@@ -49,7 +59,7 @@ final class Sentences {
         }
     }
 
-    private static String plain(String text) {
+    static String plain(String text) {
         return text.replaceAll("\\s+", " ");
     }
 }
